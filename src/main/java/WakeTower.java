@@ -868,7 +868,6 @@ public final class WakeTower {
             up &= ~set;
             for (int i = 0; i < PEOPLE; i++) {
                 on[i] = has(set, i) ? 0 : on[i] & ~set;
-                ringOf[i] = has(set, i) ? 0 : ringOf[i];
             }
         }
 
@@ -880,7 +879,7 @@ public final class WakeTower {
         void swap(int out, int in) {
             for (int i = 0; i < PEOPLE; i++) {
                 if (has(on[i], out)) {
-                    on[i] = on[i] & ~bit(out) | bit(in);
+                    on[i] |= bit(in);
                 }
             }
             bringUp(in, ringOf[out], on[out]);
@@ -1900,7 +1899,7 @@ public final class WakeTower {
         static final int NO_WAY = 10000;
 
         private final int[] sums = new int[SETS];
-        /** Of so many hours left, and of a set that may stand in the first of them: the fewest places. */
+        /** Of so many hours left, and of a set that may stand in the first of them: the fewest places (of no hours 0). */
         private final int[] fewest = new int[(MOST_HOURS + 1) * SETS];
         private int everyone = 0;
 
@@ -1908,13 +1907,8 @@ public final class WakeTower {
         int places(int[] full, int people, int hours, int x) {
             everyone = people & SETS - 1;
             sumUp(full);
-            for (int set = 0; set < SETS; set++) {
-                fewest[set] = 0;
-            }
-            for (int rest = 1; rest <= MOST_HOURS; rest++) {
-                if (rest <= hours) {
-                    fillHour(rest, x);
-                }
+            for (int rest = 1; rest <= MOST_HOURS && rest <= hours; rest++) {
+                fillHour(rest, x);
             }
             int places = fewestOf(hours, everyone);
             return places < NO_WAY ? places : NONE;

@@ -244,8 +244,11 @@ public final class PromiseTest {
         due("8 people and 12 lines", y.tower(), 3);
         due("those UP", y.count(6), 129);
         due("still asleep", y.sleepers(), 1);
+        feed(y, "need 0");
+        y.tower();
+        due("NEED 0", y.count(5), 0);
         feed(y, "day 1;day 1;day 1;day 1;day 1;day 1;day 1;day 1;day 1;day 1;day 1;day 1;day 1;day 14 ");
-        due("14 lines", y.tower(), 4);
+        due("14 lines", y.tower(), 5);
         due("DAY", y.count(4), 14);
     }
 
@@ -281,6 +284,10 @@ public final class PromiseTest {
             "hour + 0 < 1", "awake < 1", "top or ring < 1", "down or not down and ring < 1",
             "(top or not down) and ring < 1", "not not ring < 1", "((((((ring<1))))))", "not(not(not asleep and ring<1))",
             "borne+borne>99", "1+1+1>2", "000<001", "not top", "not asleep and not down", "person+borne>49 and 1<2"};
+        String deep = "1+1<1+1+1 and (top or top and 1<1+1 or ";
+        due("a law that is deep", law(x, "fade 1 if top or not top and (" + deep + deep + deep + deep
+                + "1+1+1<1+1+1+1)))))"), 1);
+        due("it holds", x.person(0, 9), 1);
         for (String condition : holds) {
             law(x, "fade 1 if " + condition);
             due("fade if " + condition, x.person(0, 9), 1);
@@ -316,7 +323,8 @@ public final class PromiseTest {
             {p + p + "up 0 ring 0;up 1 ring 1 on A", 73}, {p + p + "up 0 ring 0;up 1 ring 1 on a b", 75},
             {p + "asleep 1", 30}, {p + "asleep 0;asleep 0", 39}, {"need 9", 5}, {"need -1", 5}, {"hour 24", 5},
             {"day 1000", 4}, {"day 1 day 2", 6}, {"day 1;;day 2", 6}, {"day 1,day 2", 5}, {"\tday 1", 0}, {"day 1\0", 5},
-            {"Day 1", 0}, {"day 1;day 1;day 1;day 1;day 1;day 1;day 1;day 1;day 1;day 1;day 1;day 1;day 1;day 1; day 1", 85},
+            {"Day 1", 0}, {"daya 1", 0}, {"dayz 1", 0}, {p + p + "up 0 ring 0;up 1 ring 1 on az", 73},
+            {"day 1;day 1;day 1;day 1;day 1;day 1;day 1;day 1;day 1;day 1;day 1;day 1;day 1;day 1; day 1", 85},
             {p + p + p + p + p + p + p + p + p, 184},
             {p + "person weight 50 full 9;up 0 ring 0;up 1 ring 1 on a ", 76},
             {p + p + "up 0 ring 0;up 1 ring 1 on a;asleep 0", 83},
@@ -512,6 +520,7 @@ public final class PromiseTest {
         fails("it is UP", STATE, () -> x.rise(3, 0, 0));
         x.undo();
         fails("no such person", INDEX, () -> x.rise(4, 9, 0));
+        fails("no such person", INDEX, () -> x.rise(4, 0, 0));
         fails("no such RING", INDEX, () -> x.rise(0, 5, 0));
         fails("no such RING", INDEX, () -> x.rise(3, -1, 0));
         fails("ON somebody in RING 0", STATE, () -> x.rise(3, 0, 1));
@@ -571,6 +580,7 @@ public final class PromiseTest {
         fails("3 would give way", STATE, () -> x.relieve(0, 3));
         fails("no such person", INDEX, () -> x.relieve(9, 9));
         fails("no such person", INDEX, () -> x.relieve(0, 5));
+        fails("no such person", INDEX, () -> x.relieve(5, 0));
         due("relieve(2, 3)", x.relieve(2, 3), 0);
         due("the lowest by the new one", x.person(0, 8), 55);
     }
@@ -669,10 +679,16 @@ public final class PromiseTest {
         x.out(2);
         x.out(1);
         due("one ring", x.height(), 1);
+        due("0 is the top then", underTop(x), 1);
         x.out(0);
         due("none", x.height(), 0);
         WakeTower y = told(COLUMN, "person weight 1 full 40;up 3 ring 3 on c;up 4 ring 4 on d");
         due("five rings", y.height(), 5);
+    }
+
+    private static int underTop(WakeTower x) {
+        law(x, "fade 1 if top");
+        return x.person(0, 9);
     }
 
     private static void weakests() {
@@ -936,6 +952,8 @@ public final class PromiseTest {
         due("the other way", x.both(2, 0), 1);
         fails("both are one", ARGUMENT, () -> x.both(0, 0));
         fails("no such person", INDEX, () -> x.both(3, 3));
+        fails("no such person", INDEX, () -> x.both(3, 0));
+        fails("no such person", INDEX, () -> x.both(0, -1));
         x.sleep(1);
         fails("one is ASLEEP", STATE, () -> x.both(0, 1));
         fails("one is ASLEEP", STATE, () -> x.both(1, 0));
@@ -1031,6 +1049,7 @@ public final class PromiseTest {
         due("two hours of 200", x.roster(2, 200, 0), NONE);
         due("all", x.roster(1, 340, 0), 7);
         due("more than all", x.roster(1, 341, NONE), NONE);
+        due("far more than all", x.roster(1, 999, NONE), NONE);
         due("of nothing", x.roster(12, 0, NONE), 0);
         due("nobody stands", x.roster(12, 0, 11), 0);
         due("no such hour", x.roster(12, 0, 12), NONE);
@@ -1108,6 +1127,8 @@ public final class PromiseTest {
         due("past a sleeper", x.alone(), 24);
         due("a column", told(COLUMN).alone(), 6);
         due("a sleeper may be held so", told(COLUMN, "asleep 2").alone(), 6);
+        due("the least number too", told("person weight 1 full 9;person weight 1 full 9;up 1 ring 0;up 0 ring 1 on b")
+                .alone(), 1);
     }
 
     private static void tireds() {
@@ -1130,6 +1151,8 @@ public final class PromiseTest {
         due("twins()", told("person weight 1 full 9;person weight 1 full 9;person weight 2 full 9;"
                 + "person weight 1 full 8;person weight 1 full 9;up 0 ring 0").twins(), 3);
         due("none", told("person weight 1 full 9;person weight 9 full 1").twins(), 0);
+        due("not by WEIGHT alone", told("person weight 1 full 9;person weight 1 full 8").twins(), 0);
+        due("not by FULL alone", told("person weight 1 full 9;person weight 2 full 9").twins(), 0);
     }
 
     // ---- 48 to 61
@@ -1219,10 +1242,41 @@ public final class PromiseTest {
         due("the least", x.span(1, false), 1);
         due("the greatest", x.span(1, true), 2);
         due("now", x.span(0, false) * 10 + x.span(0, true), 22);
+        everySeed();
         due("SEED stays", x.seed(1), 77);
         due("nothing stays", x.count(6), 3);
         fails("N -1", ARGUMENT, () -> x.span(-1, true));
         fails("N 61", ARGUMENT, () -> x.span(61, true));
+    }
+
+    /** Who sleeps behind an hour from each SEED; who is on it hangs then. */
+    private static void everySeed() {
+        // the first draws from SEED 1 to 7, modulo 100
+        int[] draws = {38, 8, 47, 17, 55, 26, 64};
+        WakeTower x = told("person weight 9 full 99;person weight 9 full 99;up 0 ring 0;up 1 ring 1 on a");
+        for (int i = 0; i < draws.length; i++) {
+            x.seed(i + 1);
+            law(x, "drowse " + draws[i] + " if person < 1");
+            due("the draw from " + (i + 1) + " is not below " + draws[i], x.trial(1, false), 3);
+            law(x, "drowse " + (draws[i] + 1) + " if person < 1");
+            due("the draw from " + (i + 1) + " is below " + (draws[i] + 1), x.trial(1, false), 1);
+        }
+        law(x, "drowse 55 if person < 1");
+        due("from SEED 5 alone both stay UP", x.span(1, true), 2);
+        law(x, "drowse 56 if person < 1");
+        due("from none both stay UP", x.span(1, true), 1);
+        law(x, "drowse 8 if person < 1");
+        due("from all both stay UP", x.span(1, false), 2);
+        law(x, "drowse 9 if person < 1");
+        due("from SEED 2 one falls", x.span(1, false), 1);
+        String four = "person weight 9 full 99;person weight 9 full 99;person weight 9 full 99;person weight 9 full 99;"
+                + "up 0 ring 0;up 1 ring 0;up 2 ring 0;up 3 ring 1 on ";
+        // the third draws: 13, 39, 65, 91, 16, 42
+        WakeTower first = underLaw("drowse 14 if person > 1 and person < 3", four + "c");
+        due("from SEED 1 alone one falls", first.span(1, false), 3);
+        // the ninth draws: 12, 2, 92, 82, 72, 95
+        WakeTower last = underLaw("drowse 93 if hour > 1 and person < 1", four + "a");
+        due("from SEED 6 alone all stay UP", last.span(3, true), 4);
     }
 
     private static void leds() {
@@ -1241,6 +1295,16 @@ public final class PromiseTest {
         x.hours(1);
         due("two rows", x.led(0, false), 2);
         due("the latest day", x.led(0, true), 9);
+        due("the latest day of the one who fell last", x.led(1, true), 9);
+        WakeTower y = underLaw("drowse 100 if person < 1", "person weight 9 full 99;person weight 9 full 99;"
+                + "person weight 9 full 99;up 0 ring 0;up 1 ring 1 on a;up 2 ring 1 on a;hour 23;day 4");
+        y.hours(1);
+        y.wake(0);
+        y.rise(2, 1, 1);
+        y.hours(1);
+        due("the day of one who fell ahead", y.led(1, true), 4);
+        due("the day of one who fell again", y.led(2, true), 5);
+        due("none of one who never fell", y.led(0, true), NONE);
         fails("no such person", INDEX, () -> x.led(3, true));
     }
 
@@ -1327,8 +1391,33 @@ public final class PromiseTest {
         due("the log is as ahead", frail.count(9), 0);
         due("they stand", frail.count(6), 3);
         due("they bear", frail.count(7), 28);
+        due("HOURS awake are as ahead", frail.person(0, 4), 0);
+        twoLogs();
         actsUndone(x);
         undoAndTexts();
+    }
+
+    /** Rows that are undone make room for others. */
+    private static void twoLogs() {
+        WakeTower x = told(FRAIL);
+        x.hours(2);
+        x.rise(0, 0, 0);
+        x.rise(1, 1, 1);
+        x.image();
+        x.hours(2);
+        due("four rows", x.count(9), 4);
+        due("the hour", x.log(0, 1), 7);
+        x.back();
+        due("two rows", x.count(9), 2);
+        due("the hour of the latest", x.log(0, 1), 5);
+        x.need(1);
+        x.hours(3);
+        due("four rows again", x.count(9), 4);
+        due("who", x.log(3, 2) * 1000 + x.log(2, 2) * 100 + x.log(1, 2) * 10 + x.log(0, 2), 101);
+        x.undo();
+        due("two rows", x.count(9), 2);
+        due("the oldest", x.log(1, 2) * 10 + x.log(1, 1), 5);
+        due("the latest", x.log(0, 2) * 10 + x.log(0, 1), 15);
     }
 
     private static void actsUndone(WakeTower x) {
