@@ -288,6 +288,8 @@ public final class PromiseTest {
         due("a law that is deep", law(x, "fade 1 if top or not top and (" + deep + deep + deep + deep
                 + "1+1+1<1+1+1+1)))))"), 1);
         due("it holds", x.person(0, 9), 1);
+        law(x, "fade 1 if top or not top and (" + deep + deep + deep + deep + "1+1+1+1<1+1+1+1)))))");
+        due("it does not", x.person(0, 9), 0);
         for (String condition : holds) {
             law(x, "fade 1 if " + condition);
             due("fade if " + condition, x.person(0, 9), 1);
@@ -1349,6 +1351,15 @@ public final class PromiseTest {
         due("the latest", x.log(0, 0) * 100 + x.log(0, 1), 212);
         due("the oldest is the second", x.log(59, 0) * 100 + x.log(59, 1), 1);
         due("none behind", x.log(60, 1), NONE);
+        x.image();
+        x.rise(1, 1, 1);
+        x.hours(1);
+        due("the oldest is the third", x.log(59, 1), 2);
+        x.undo();
+        due("undone: the oldest is the second", x.log(59, 1), 1);
+        x.hours(1);
+        x.back();
+        due("gone back: the oldest is the second", x.log(59, 1), 1);
     }
 
     private static void seeds() {
