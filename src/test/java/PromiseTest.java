@@ -1,14 +1,5 @@
-import java.util.NoSuchElementException;
-
 /** By hand, promise by promise: ordinary answers, the edges that the document names, and wrong inputs. */
-public final class PromiseTest {
-    private static final Class<?> INDEX = IndexOutOfBoundsException.class;
-    private static final Class<?> ARGUMENT = IllegalArgumentException.class;
-    private static final Class<?> STATE = IllegalStateException.class;
-    private static final Class<?> ELEMENT = NoSuchElementException.class;
-    private static final Class<?> UNSUPPORTED = UnsupportedOperationException.class;
-    private static final int NONE = -1;
-
+public final class PromiseTest extends Checks {
     /** Three rings: 0 bears 25, 1 bears 65, 2 and 3 bear 10 each; 5 is a reserve. */
     private static final String THREE_RINGS = "person weight 60 full 200;person weight 50 full 150;"
             + "person weight 40 full 90;person weight 30 full 100;person weight 20 full 60;person weight 70 full 300;"
@@ -22,100 +13,6 @@ public final class PromiseTest {
     /** An hour fades 0 to 25, less than the 28 it bears. */
     private static final String FRAIL = "person weight 10 full 30;person weight 28 full 50;up 0 ring 0;up 1 ring 1 on a;"
             + "hour 5;day 7";
-
-    private static int promise = 0;
-    private static int checks = 0;
-    private static int wrong = 0;
-
-    interface Call {
-        void of();
-    }
-
-    private static void due(String what, long got, long want) {
-        checks++;
-        if (got != want) {
-            wrong++;
-            System.out.println("promise " + promise + ": " + what + " answered " + got + ", due is " + want);
-        }
-    }
-
-    private static void yes(String what, boolean got) {
-        due(what, got ? 1 : 0, 1);
-    }
-
-    private static void no(String what, boolean got) {
-        due(what, got ? 1 : 0, 0);
-    }
-
-    private static void fails(String what, Class<?> want, Call call) {
-        checks++;
-        Class<?> got = null;
-        try {
-            call.of();
-        } catch (RuntimeException e) {
-            got = e.getClass();
-        }
-        if (got != want) {
-            wrong++;
-            System.out.println("promise " + promise + ": " + what + " threw " + got + ", due is " + want);
-        }
-    }
-
-    private static void feed(WakeTower x, String text) {
-        x.end(0);
-        for (int from = 0; from < text.length(); from += 20) {
-            int[] n = new int[5];
-            for (int i = 0; i < 20 && from + i < text.length(); i++) {
-                n[i / 4] |= text.charAt(from + i) << 24 - 8 * (i % 4);
-            }
-            x.feed(n[0], n[1], n[2], n[3], n[4]);
-        }
-        yes("the tape has the text", x.end(text.length()));
-    }
-
-    private static void rows(WakeTower x, int... people) {
-        StringBuilder rows = new StringBuilder();
-        for (int p : people) {
-            rows.append((char) p);
-        }
-        feed(x, rows.toString());
-    }
-
-    private static int law(WakeTower x, String text) {
-        feed(x, text);
-        return x.law();
-    }
-
-    private static WakeTower told(String... texts) {
-        WakeTower x = new WakeTower();
-        for (String text : texts) {
-            feed(x, text);
-            x.tower();
-        }
-        return x;
-    }
-
-    private static WakeTower underLaw(String law, String... texts) {
-        WakeTower x = told(texts);
-        law(x, law);
-        return x;
-    }
-
-    private static void wrongTower(WakeTower x, String text, int at) {
-        feed(x, text);
-        fails("tower(" + text + ")", ARGUMENT, x::tower);
-        due("fault() of " + text, x.fault(), at);
-        no("the tape is used up", x.end(1));
-    }
-
-    private static void wrongLaw(String text, int at) {
-        WakeTower x = new WakeTower();
-        feed(x, text);
-        fails("law(" + text + ")", ARGUMENT, x::law);
-        due("fault() of " + text, x.fault(), at);
-        due("no law", x.count(2), NONE);
-        no("the tape is used up", x.end(1));
-    }
 
     public static void main(String[] args) {
         Call[] promises = {
@@ -133,19 +30,10 @@ public final class PromiseTest {
             PromiseTest::leds, PromiseTest::logs, PromiseTest::seeds, PromiseTest::undoes, PromiseTest::images,
             PromiseTest::backs, PromiseTest::counts,
         };
-        for (Call test : promises) {
-            promise++;
-            int before = checks;
-            test.of();
-            if (checks == before) {
-                wrong++;
-                System.out.println("promise " + promise + " has no test");
-            }
+        for (int i = 0; i < promises.length; i++) {
+            run("promise " + (i + 1), promises[i]);
         }
-        System.out.println("PromiseTest: " + promise + " promises, " + checks + " checks, " + wrong + " wrong");
-        if (wrong != 0) {
-            System.exit(1);
-        }
+        end("PromiseTest", promises.length);
     }
 
     // ---- 1 to 6
@@ -365,7 +253,7 @@ public final class PromiseTest {
             {"mend 5;mend 5;mend 5;mend 5;mend 5;mend 5;mend 5;mend 5;mend 5;mend 5;mend 5;mend 5;", 84},
         };
         for (Object[] row : wrongs) {
-            wrongLaw((String) row[0], (Integer) row[1]);
+            wrongLaw(new WakeTower(), (String) row[0], (Integer) row[1]);
         }
         WakeTower x = new WakeTower();
         due("six deep", law(x, "fade 3 if not (not (not (top)))"), 1);
