@@ -300,7 +300,7 @@ public final class WakeTower {
         if (k == 0) {
             return person;
         }
-        return k > 0 && k < fell ? next.fallOrder[k - 1] : NONE;
+        return k > 0 && k < fell && k <= PEOPLE ? next.fallOrder[k - 1] : NONE;
     }
 
     /** How many come down with one who comes out; next has their order and the rounds then. */

@@ -9,42 +9,61 @@ public final class AskEdgeTest extends Checks {
     private static final String NOBODY_UP = "person weight 9 full 99;person weight 9 full 99";
 
     public static void main(String[] args) {
-        String[] names = {
-            "person: what 0 to 13", "SHARE in hundredths, rounded down, 0 without", "TOTAL and GROUND of none",
-            "HEIGHT 0 to 5", "SPARE 0 of one that does not HOLD", "WEAKEST: of several the least, none", "MORE 0 to 99",
-            "MORE so that nobody GIVES WAY", "OUTS", "SLEEPS", "FALLS and ROUNDS", "the K-TH", "KEY: of several the least",
-            "PILLARS: the empty one, too", "LEFT: of several the least", "LEFT: somebody in the uppermost RING",
-            "GUARD: at most 4 rows", "GUARD: the k-th row, none", "GUARD: the first such order", "GUARD: the TAPE",
-            "SOLO", "FEELS: itself as it is", "FEELS: nobody HANGS", "SURE and FREE", "BOTH", "ASK: of several the least",
-            "ASK: none", "PUSHES", "TELL", "HERALD: of several the least", "CUTS", "ROSTER: N 1 to 12, X 0 to 999",
-            "ROSTER: X at least", "ROSTER: the k-th HOUR", "ROSTER: nobody twice running", "ROSTER: the first",
-            "PAIRS: X at least", "DEAREST: none is more than all", "DEAREST: of several the least", "RESTS",
-            "ODDS: N 0 to 4", "ODDS: 100 at most, rounded down", "ALONE", "TIRED: of several the least, none if 0",
-            "TWINS", "THOSE of RING 0 to 4", "RESERVES and SLEEPERS", "SOON: fewer than NEED", "SOON: 0 to 60",
-            "AHEAD: 0 to 60", "TRIAL: 0 to 60", "SPAN: 0 to 60", "LED", "COUNT 0 to 10",
-        };
-        Call[] tests = {
-            AskEdgeTest::persons, AskEdgeTest::shares, AskEdgeTest::totals, AskEdgeTest::heights, AskEdgeTest::spares,
-            AskEdgeTest::weakest, AskEdgeTest::moreBounds, AskEdgeTest::moreBorne, AskEdgeTest::outs, AskEdgeTest::sleeps,
-            AskEdgeTest::falls, AskEdgeTest::kth, AskEdgeTest::keys, AskEdgeTest::pillars, AskEdgeTest::left,
-            AskEdgeTest::leftTop, AskEdgeTest::guardRows, AskEdgeTest::guardKth, AskEdgeTest::guardOrder,
-            AskEdgeTest::guardTape, AskEdgeTest::solo, AskEdgeTest::feels, AskEdgeTest::feelsHang, AskEdgeTest::sureFree,
-            AskEdgeTest::both, AskEdgeTest::ask, AskEdgeTest::askNone, AskEdgeTest::pushes, AskEdgeTest::tell,
-            AskEdgeTest::herald, AskEdgeTest::cuts, AskEdgeTest::rosterBounds, AskEdgeTest::rosterAtLeast,
-            AskEdgeTest::rosterKth, AskEdgeTest::rosterTwice, AskEdgeTest::rosterFirst, AskEdgeTest::pairs,
-            AskEdgeTest::dearestNone, AskEdgeTest::dearest, AskEdgeTest::rests, AskEdgeTest::oddsBounds, AskEdgeTest::odds,
-            AskEdgeTest::alone, AskEdgeTest::tired, AskEdgeTest::twins, AskEdgeTest::rings, AskEdgeTest::reserves,
-            AskEdgeTest::soonNeed, AskEdgeTest::soonBounds, AskEdgeTest::ahead, AskEdgeTest::trial, AskEdgeTest::span,
-            AskEdgeTest::led, AskEdgeTest::counts,
-        };
-        for (int i = 0; i < tests.length; i++) {
-            run(names[i], tests[i]);
-        }
-        end("AskEdgeTest", tests.length);
-    }
-
-    private static String person(int weight, int full) {
-        return "person weight " + weight + " full " + full + ";";
+        run("person: what 0 to 13", AskEdgeTest::persons);
+        run("SHARE in hundredths, rounded down, 0 without", AskEdgeTest::shares);
+        run("TOTAL and GROUND of none", AskEdgeTest::totals);
+        run("HEIGHT 0 to 5", AskEdgeTest::heights);
+        run("SPARE 0 of one that does not HOLD", AskEdgeTest::spares);
+        run("WEAKEST: of several the least, none", AskEdgeTest::weakest);
+        run("MORE 0 to 99", AskEdgeTest::moreBounds);
+        run("MORE so that nobody GIVES WAY", AskEdgeTest::moreBorne);
+        run("OUTS", AskEdgeTest::outs);
+        run("SLEEPS", AskEdgeTest::sleeps);
+        run("FALLS and ROUNDS", AskEdgeTest::falls);
+        run("the K-TH", AskEdgeTest::kth);
+        run("KEY: of several the least", AskEdgeTest::keys);
+        run("PILLARS: the empty one, too", AskEdgeTest::pillars);
+        run("LEFT: of several the least", AskEdgeTest::left);
+        run("LEFT: somebody in the uppermost RING", AskEdgeTest::leftTop);
+        run("GUARD: at most 4 rows", AskEdgeTest::guardRows);
+        run("GUARD: the k-th row, none", AskEdgeTest::guardKth);
+        run("GUARD: the first such order", AskEdgeTest::guardOrder);
+        run("GUARD: the TAPE", AskEdgeTest::guardTape);
+        run("SOLO", AskEdgeTest::solo);
+        run("FEELS: itself as it is", AskEdgeTest::feels);
+        run("FEELS: nobody HANGS", AskEdgeTest::feelsHang);
+        run("SURE and FREE", AskEdgeTest::sureFree);
+        run("BOTH", AskEdgeTest::both);
+        run("ASK: of several the least", AskEdgeTest::ask);
+        run("ASK: none", AskEdgeTest::askNone);
+        run("PUSHES", AskEdgeTest::pushes);
+        run("TELL", AskEdgeTest::tell);
+        run("HERALD: of several the least", AskEdgeTest::herald);
+        run("CUTS", AskEdgeTest::cuts);
+        run("ROSTER: N 1 to 12, X 0 to 999", AskEdgeTest::rosterBounds);
+        run("ROSTER: X at least", AskEdgeTest::rosterAtLeast);
+        run("ROSTER: the k-th HOUR", AskEdgeTest::rosterKth);
+        run("ROSTER: nobody twice running", AskEdgeTest::rosterTwice);
+        run("ROSTER: the first", AskEdgeTest::rosterFirst);
+        run("PAIRS: X at least", AskEdgeTest::pairs);
+        run("DEAREST: none is more than all", AskEdgeTest::dearestNone);
+        run("DEAREST: of several the least", AskEdgeTest::dearest);
+        run("RESTS", AskEdgeTest::rests);
+        run("ODDS: N 0 to 4", AskEdgeTest::oddsBounds);
+        run("ODDS: 100 at most, rounded down", AskEdgeTest::odds);
+        run("ALONE", AskEdgeTest::alone);
+        run("TIRED: of several the least, none if 0", AskEdgeTest::tired);
+        run("TWINS", AskEdgeTest::twins);
+        run("THOSE of RING 0 to 4", AskEdgeTest::rings);
+        run("RESERVES and SLEEPERS", AskEdgeTest::reserves);
+        run("SOON: fewer than NEED", AskEdgeTest::soonNeed);
+        run("SOON: 0 to 60", AskEdgeTest::soonBounds);
+        run("AHEAD: 0 to 60", AskEdgeTest::ahead);
+        run("TRIAL: 0 to 60", AskEdgeTest::trial);
+        run("SPAN: 0 to 60", AskEdgeTest::span);
+        run("LED", AskEdgeTest::led);
+        run("COUNT 0 to 10", AskEdgeTest::counts);
+        end("AskEdgeTest");
     }
 
     /** Eight people, of these numbers in RING 0 and those in RING 1, each ON the two beside it: one long path. */
@@ -85,6 +104,8 @@ public final class AskEdgeTest extends Checks {
         y.out(3);
         due("nobody bears: 0", y.person(0, 13), 0);
         due("of a reserve", y.person(3, 13), 0);
+        WakeTower one = told(people(2, 1, 99) + "up 0 ring 0;up 1 ring 1 on a");
+        due("1 of 1", one.person(0, 13), 100);
     }
 
     private static void totals() {
@@ -467,6 +488,20 @@ public final class AskEdgeTest extends Checks {
         fails("no such person", INDEX, () -> x.free(-1));
         WakeTower one = told("person weight 9 full 9;up 0 ring 0");
         due("one alone", one.sure(0) + one.free(0), 0);
+        WakeTower first = told(ARCH, "asleep 0");
+        due("SURE of the person 0", first.sure(1), 1);
+        due("it is not FREE", first.free(1), 0);
+        // 3 ON 2, 2 ON 0 and 1: but for 3 one set alone is so
+        WakeTower sole = told(ARCH, "person weight 1 full 1;up 3 ring 2 on c;asleep 0");
+        due("sets by 3 of the arch: three", sole.feels(3), 3);
+        WakeTower set = told(people(2, 10, 99) + person(40, 99) + person(40, 99) + person(1, 9)
+                + "up 0 ring 0;up 1 ring 0;up 2 ring 1 on ab;up 3 ring 1 on b;up 4 ring 2 on cd;asleep 0");
+        due("sets by 1", set.feels(1), 6);
+        due("SURE by 1 of 0", set.sure(1), 1);
+        due("FREE by 1 of nobody", set.free(1), 0);
+        WakeTower column = told(people(3, 10, 99) + person(1, 9)
+                + "up 0 ring 0;up 1 ring 0;up 2 ring 1 on ab;up 3 ring 2 on c;asleep 1");
+        due("both(0, 3): 1 alone sleeps", column.both(0, 3), 1);
         due("a column, all below", told(COLUMN).free(2), 3);
     }
 
@@ -502,6 +537,16 @@ public final class AskEdgeTest extends Checks {
         due("who parts them", y.ask(3), 0);
         y.sleep(0);
         due("who sleeps is not asked", y.ask(3), 1);
+        // 0 bears 88 with two of 1, 2, 3, one of whom sleeps; 4, ON them all, may sleep: six sets, 1 parts 2 and 4
+        WakeTower one = told(people(4, 1, 99) + person(88, 1) + "up 0 ring 0;up 1 ring 0;up 2 ring 0;up 3 ring 0;"
+                + "up 4 ring 1 on abcd;asleep 3");
+        due("six sets", one.feels(0), 6);
+        due("1 and 2 part them alike: the least", one.ask(0), 1);
+        // 0 bears 198 in all of six sets by 5; 3 and 4 would bear 20, 40 or nothing
+        WakeTower heavy = told(person(1, 999) + person(99, 999) + person(99, 9) + people(2, 1, 99) + person(40, 9)
+                + "up 0 ring 0;up 1 ring 1 on a;up 2 ring 2 on b;up 3 ring 0;up 4 ring 0;up 5 ring 1 on de");
+        due("six sets", heavy.feels(5), 6);
+        due("one who bears much, but alike in all", heavy.ask(5), 3);
     }
 
     private static void askNone() {
@@ -537,6 +582,13 @@ public final class AskEdgeTest extends Checks {
         due("ahead of a sleeper", x.pushes(0, 3), 3);
         WakeTower two = told(NOBODY_UP, "up 0 ring 0;up 1 ring 0");
         due("who stand beside touch not", two.pushes(0, 1), NONE);
+        WakeTower high = told(people(3, 1, 99) + "up 1 ring 0;up 0 ring 1 on b;up 2 ring 2 on a");
+        due("from one below to 0", high.pushes(1, 0), 1);
+        due("past 0", high.pushes(1, 2), 2);
+        due("past 0, down", high.pushes(2, 1), 2);
+        due("to 0, down", high.pushes(2, 0), 1);
+        due("0 cuts", high.cuts(0), 1);
+        due("0 tells soonest", high.herald(), 0);
         two.out(1);
         due("to one DOWN", two.pushes(0, 1), NONE);
         due("one DOWN to itself", two.pushes(1, 1), NONE);
@@ -728,6 +780,9 @@ public final class AskEdgeTest extends Checks {
         // just 100 and one less: 99 needs another one beside it
         due("X 100", told(person(1, 100) + person(1, 99) + person(1, 100) + person(1, 100)).dearest(), 0);
         due("99 is too few", told(person(1, 99) + person(1, 100) + person(1, 100) + person(1, 1)).dearest(), 1);
+        // two hours without 1 or 4 take six places; three hours would take eight without 1, nine without 4
+        due("2 HOURS", told(person(1, 31) + person(1, 50) + person(1, 27) + person(1, 18) + person(1, 53) + person(1, 47)
+                + person(1, 33)).dearest(), 1);
     }
 
     private static void rests() {

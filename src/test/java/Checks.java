@@ -11,6 +11,7 @@ abstract class Checks {
 
     /** What is tested just now, ahead of each row that tells of a wrong answer. */
     static String about = "";
+    static int parts = 0;
     static int checks = 0;
     static int wrong = 0;
 
@@ -51,6 +52,7 @@ abstract class Checks {
     /** Runs a test that must check something. */
     static void run(String name, Call test) {
         about = name;
+        parts++;
         int before = checks;
         test.of();
         if (checks == before) {
@@ -59,7 +61,7 @@ abstract class Checks {
         }
     }
 
-    static void end(String test, int parts) {
+    static void end(String test) {
         System.out.println(test + ": " + parts + " parts, " + checks + " checks, " + wrong + " wrong");
         if (wrong != 0) {
             System.exit(1);
@@ -127,9 +129,14 @@ abstract class Checks {
         no("the tape is used up", x.end(1));
     }
 
+    /** A line that tells a person, with the ; behind it. */
+    static String person(int weight, int full) {
+        return "person weight " + weight + " full " + full + ";";
+    }
+
     /** Lines that tell so many like people. */
     static String people(int many, int weight, int full) {
-        return ("person weight " + weight + " full " + full + ";").repeat(many);
+        return person(weight, full).repeat(many);
     }
 
     /** All but the last sign: lines that each end with ; are a text so. */

@@ -11,27 +11,33 @@ public final class LawEdgeTest extends Checks {
             + "up 3 ring 2 on b";
 
     public static void main(String[] args) {
-        String[] names = {
-            "at most 12 LINES", "N 0 to 100", "a NUMBER of 1 to 3 digits", "6 deep", "deep by not and ( together",
-            "not deeper by others beside", "words", "what must come next", "C is whole", "ATOM or SUM", "blanks",
-            "in place of the one before", "a wrong law", "without a text", "a law of no LINE", "the sum of all that hold",
-            "< and >", "and ahead of or", "person, weight, strength", "ring and borne of one DOWN", "asleep, down, top",
-            "awake and hour", "sums that are long", "deep laws hold", "by all as it is ahead of the HOUR",
-            "by all as it is then",
-        };
-        Call[] tests = {
-            LawEdgeTest::lines, LawEdgeTest::amounts, LawEdgeTest::numbers, LawEdgeTest::deep, LawEdgeTest::mixed,
-            LawEdgeTest::beside, LawEdgeTest::words, LawEdgeTest::mustCome, LawEdgeTest::wholeConditions,
-            LawEdgeTest::atoms, LawEdgeTest::blanks, LawEdgeTest::inPlace, LawEdgeTest::wrongLaws,
-            LawEdgeTest::untold, LawEdgeTest::noLine, LawEdgeTest::sumOfAll, LawEdgeTest::strict,
-            LawEdgeTest::binding, LawEdgeTest::ownNumbers, LawEdgeTest::ringAndBorne, LawEdgeTest::states,
-            LawEdgeTest::awakeAndHour, LawEdgeTest::longSums, LawEdgeTest::deepLaws, LawEdgeTest::asAhead,
-            LawEdgeTest::asThen,
-        };
-        for (int i = 0; i < tests.length; i++) {
-            run(names[i], tests[i]);
-        }
-        end("LawEdgeTest", tests.length);
+        run("at most 12 LINES", LawEdgeTest::lines);
+        run("N 0 to 100", LawEdgeTest::amounts);
+        run("a NUMBER of 1 to 3 digits", LawEdgeTest::numbers);
+        run("6 deep", LawEdgeTest::deep);
+        run("deep by not and ( together", LawEdgeTest::mixed);
+        run("not deeper by others beside", LawEdgeTest::beside);
+        run("words", LawEdgeTest::words);
+        run("what must come next", LawEdgeTest::mustCome);
+        run("C is whole", LawEdgeTest::wholeConditions);
+        run("ATOM or SUM", LawEdgeTest::atoms);
+        run("blanks", LawEdgeTest::blanks);
+        run("in place of the one before", LawEdgeTest::inPlace);
+        run("a wrong law", LawEdgeTest::wrongLaws);
+        run("without a text", LawEdgeTest::untold);
+        run("a law of no LINE", LawEdgeTest::noLine);
+        run("the sum of all that hold", LawEdgeTest::sumOfAll);
+        run("< and >", LawEdgeTest::strict);
+        run("and ahead of or", LawEdgeTest::binding);
+        run("person, weight, strength", LawEdgeTest::ownNumbers);
+        run("ring and borne of one DOWN", LawEdgeTest::ringAndBorne);
+        run("asleep, down, top", LawEdgeTest::states);
+        run("awake and hour", LawEdgeTest::awakeAndHour);
+        run("sums that are long", LawEdgeTest::longSums);
+        run("deep laws hold", LawEdgeTest::deepLaws);
+        run("by all as it is ahead of the HOUR", LawEdgeTest::asAhead);
+        run("by all as it is then", LawEdgeTest::asThen);
+        end("LawEdgeTest");
     }
 
     private static WakeTower right(String text, int lines) {
@@ -404,6 +410,8 @@ public final class LawEdgeTest extends Checks {
         x.out(0);
         due("who is DOWN is no top", holds(x, "top"), 0);
         due("down", holds(x, "down"), 31);
+        WakeTower high = told(people(3, 9, 99) + "up 2 ring 0;up 1 ring 1 on c;up 0 ring 2 on b");
+        due("the person 0 is the top", holds(high, "top"), 1);
     }
 
     private static void awakeAndHour() {

@@ -33,7 +33,7 @@ public final class PromiseTest extends Checks {
         for (int i = 0; i < promises.length; i++) {
             run("promise " + (i + 1), promises[i]);
         }
-        end("PromiseTest", promises.length);
+        end("PromiseTest");
     }
 
     // ---- 1 to 6

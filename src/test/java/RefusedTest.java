@@ -13,19 +13,25 @@ public final class RefusedTest extends Checks {
     }
 
     public static void main(String[] args) {
-        String[] names = {"promises 4 and 5: texts", "promise 4: there are 12", "promise 7", "promise 8", "promise 9",
-            "promise 10", "promise 11", "promise 12", "promise 13", "promise 14", "promise 15", "promises 20 to 25",
-            "promises 29 and 30: rows", "promises 31 to 35", "promises 36 to 39", "promises 40 to 44",
-            "promises 48 to 56", "questions"};
-        Call[] tests = {RefusedTest::texts, RefusedTest::twelve, RefusedTest::persons, RefusedTest::hours,
-            RefusedTest::rises, RefusedTest::outs, RefusedTest::reliefs, RefusedTest::leans, RefusedTest::wakes,
-            RefusedTest::sleeps, RefusedTest::needs, RefusedTest::ofOneUp, RefusedTest::rowsTold,
-            RefusedTest::ofOneThatHolds, RefusedTest::ofTouch, RefusedTest::ofNumbers, RefusedTest::ofHours,
-            RefusedTest::questions};
-        for (int i = 0; i < tests.length; i++) {
-            run(names[i], tests[i]);
-        }
-        end("RefusedTest", tests.length);
+        run("promises 4 and 5: texts", RefusedTest::texts);
+        run("promise 4: there are 12", RefusedTest::twelve);
+        run("promise 7", RefusedTest::persons);
+        run("promise 8", RefusedTest::hours);
+        run("promise 9", RefusedTest::rises);
+        run("promise 10", RefusedTest::outs);
+        run("promise 11", RefusedTest::reliefs);
+        run("promise 12", RefusedTest::leans);
+        run("promise 13", RefusedTest::wakes);
+        run("promise 14", RefusedTest::sleeps);
+        run("promise 15", RefusedTest::needs);
+        run("promises 20 to 25", RefusedTest::ofOneUp);
+        run("promises 29 and 30: rows", RefusedTest::rowsTold);
+        run("promises 31 to 35", RefusedTest::ofOneThatHolds);
+        run("promises 36 to 39", RefusedTest::ofTouch);
+        run("promises 40 to 44", RefusedTest::ofNumbers);
+        run("promises 48 to 56", RefusedTest::ofHours);
+        run("questions", RefusedTest::questions);
+        end("RefusedTest");
     }
 
     /**

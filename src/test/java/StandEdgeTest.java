@@ -8,39 +8,46 @@ public final class StandEdgeTest extends Checks {
     private static final String ALONE = "person weight 10 full 100;up 0 ring 0";
 
     public static void main(String[] args) {
-        String[] names = {
-            "shares are rounded down, the least numbers have 1 more", "each load is shared out by itself",
-            "those that do not HOLD have no share", "WEIGHT and what it BEARS go down", "rise: BORNE up to STRENGTH",
-            "rise: somebody HOLDS below", "rise: RINGS and sets", "out: BORNE up to STRENGTH",
-            "out: nobody HANGS", "relieve: BORNE up to STRENGTH", "relieve: nobody HANGS", "lean: BORNE up to STRENGTH",
-            "lean: RINGS and sets", "wake: BORNE up to STRENGTH", "sleep: BORNE up to STRENGTH", "sleep: nobody HANGS",
-            "NEED 0 to 8", "hours 1 to 60", "STRENGTH 0 at least, FULL at most", "HOURS awake 0 to 99",
-            "behind HOUR 23 a DAY", "DRAW modulo 100 below DROWSES", "DRAW goes round", "who draws",
-            "a FALL if BORNE is more than STRENGTH", "a FALL round by round", "at once", "not ASLEEP any more",
-            "a FALL if somebody HANGS", "THE LOG: DAY and HOUR ahead", "THE LOG: the latest 60", "12 are remembered",
-            "what is an ACT", "what is not an ACT", "texts and going back: none are remembered", "UNDONE and done again",
-            "UNDONE but for", "THE IMAGE", "THE IMAGE is one",
-        };
-        Call[] tests = {
-            StandEdgeTest::shares, StandEdgeTest::sharedAlone, StandEdgeTest::noShare, StandEdgeTest::goesDown,
-            StandEdgeTest::riseBorne, StandEdgeTest::riseHeld, StandEdgeTest::riseSets, StandEdgeTest::outBorne,
-            StandEdgeTest::outHangs, StandEdgeTest::relieveBorne, StandEdgeTest::relieveHangs, StandEdgeTest::leanBorne,
-            StandEdgeTest::leanSets, StandEdgeTest::wakeBorne, StandEdgeTest::sleepBorne, StandEdgeTest::sleepHangs,
-            StandEdgeTest::needs, StandEdgeTest::hours, StandEdgeTest::strengths, StandEdgeTest::awake,
-            StandEdgeTest::clock, StandEdgeTest::below, StandEdgeTest::goesRound, StandEdgeTest::whoDraws,
-            StandEdgeTest::gives, StandEdgeTest::rounds, StandEdgeTest::atOnce, StandEdgeTest::awakeByFalling,
-            StandEdgeTest::hangs, StandEdgeTest::logTime, StandEdgeTest::logRoom, StandEdgeTest::remembered,
-            StandEdgeTest::acts, StandEdgeTest::noActs, StandEdgeTest::forgotten, StandEdgeTest::undoneAndDone,
-            StandEdgeTest::undoneBut, StandEdgeTest::image, StandEdgeTest::oneImage,
-        };
-        for (int i = 0; i < tests.length; i++) {
-            run(names[i], tests[i]);
-        }
-        end("StandEdgeTest", tests.length);
-    }
-
-    private static String person(int weight, int full) {
-        return "person weight " + weight + " full " + full + ";";
+        run("shares are rounded down, the least numbers have 1 more", StandEdgeTest::shares);
+        run("each load is shared out by itself", StandEdgeTest::sharedAlone);
+        run("those that do not HOLD have no share", StandEdgeTest::noShare);
+        run("WEIGHT and what it BEARS go down", StandEdgeTest::goesDown);
+        run("rise: BORNE up to STRENGTH", StandEdgeTest::riseBorne);
+        run("rise: somebody HOLDS below", StandEdgeTest::riseHeld);
+        run("rise: RINGS and sets", StandEdgeTest::riseSets);
+        run("out: BORNE up to STRENGTH", StandEdgeTest::outBorne);
+        run("out: nobody HANGS", StandEdgeTest::outHangs);
+        run("relieve: BORNE up to STRENGTH", StandEdgeTest::relieveBorne);
+        run("relieve: nobody HANGS", StandEdgeTest::relieveHangs);
+        run("lean: BORNE up to STRENGTH", StandEdgeTest::leanBorne);
+        run("lean: RINGS and sets", StandEdgeTest::leanSets);
+        run("wake: BORNE up to STRENGTH", StandEdgeTest::wakeBorne);
+        run("sleep: BORNE up to STRENGTH", StandEdgeTest::sleepBorne);
+        run("sleep: nobody HANGS", StandEdgeTest::sleepHangs);
+        run("NEED 0 to 8", StandEdgeTest::needs);
+        run("hours 1 to 60", StandEdgeTest::hours);
+        run("STRENGTH 0 at least, FULL at most", StandEdgeTest::strengths);
+        run("HOURS awake 0 to 99", StandEdgeTest::awake);
+        run("behind HOUR 23 a DAY", StandEdgeTest::clock);
+        run("DRAW modulo 100 below DROWSES", StandEdgeTest::below);
+        run("DRAW goes round", StandEdgeTest::goesRound);
+        run("who draws", StandEdgeTest::whoDraws);
+        run("a FALL if BORNE is more than STRENGTH", StandEdgeTest::gives);
+        run("a FALL round by round", StandEdgeTest::rounds);
+        run("at once", StandEdgeTest::atOnce);
+        run("not ASLEEP any more", StandEdgeTest::awakeByFalling);
+        run("a FALL if somebody HANGS", StandEdgeTest::hangs);
+        run("THE LOG: DAY and HOUR ahead", StandEdgeTest::logTime);
+        run("THE LOG: the latest 60", StandEdgeTest::logRoom);
+        run("12 are remembered", StandEdgeTest::remembered);
+        run("what is an ACT", StandEdgeTest::acts);
+        run("what is not an ACT", StandEdgeTest::noActs);
+        run("texts and going back: none are remembered", StandEdgeTest::forgotten);
+        run("UNDONE and done again", StandEdgeTest::undoneAndDone);
+        run("UNDONE but for", StandEdgeTest::undoneBut);
+        run("THE IMAGE", StandEdgeTest::image);
+        run("THE IMAGE is one", StandEdgeTest::oneImage);
+        end("StandEdgeTest");
     }
 
     // ---- loads
@@ -195,6 +202,12 @@ public final class StandEdgeTest extends Checks {
         due("the sleeper", y.out(0), 40);
         due("it sleeps yet", y.sleepers(), 1);
         due("2 is ON 1 alone", y.person(2, 7), 2);
+        // the person 0 above others
+        WakeTower high = told(people(3, 9, 99) + "up 1 ring 0;up 2 ring 0;up 0 ring 1 on bc");
+        high.out(1);
+        due("0 is ON 2 alone", high.person(0, 7), 4);
+        high.out(0);
+        due("0 is ON nobody", high.person(0, 7), 0);
     }
 
     private static void relieveBorne() {
@@ -232,6 +245,13 @@ public final class StandEdgeTest extends Checks {
         fails("both are one", ARGUMENT, () -> x.relieve(0, 0));
         fails("both are one, DOWN", ARGUMENT, () -> x.relieve(1, 1));
         fails("no such person", INDEX, () -> x.relieve(4, 4));
+        WakeTower two = told(ARCH, person(10, 100));
+        due("one of two below", two.relieve(0, 3), 20);
+        due("2 is ON the new one, and ON the other one yet", two.person(2, 7), 10);
+        due("the other one bears its share", two.person(1, 8), 20);
+        WakeTower high = told(people(4, 9, 99) + "up 1 ring 0;up 2 ring 0;up 0 ring 1 on bc");
+        due("one below the person 0", high.relieve(1, 3), 4);
+        due("0 is ON the new one", high.person(0, 7), 12);
         fails("no such person", INDEX, () -> x.relieve(0, 4));
         fails("no such person", INDEX, () -> x.relieve(-1, 1));
     }
@@ -271,6 +291,10 @@ public final class StandEdgeTest extends Checks {
         fails("no such person", INDEX, () -> x.lean(5, 1));
         due("as it is on", x.lean(3, 4), 4);
         due("acts", x.count(10), 2);
+        x.hours(3);
+        due("falls of another", x.falls(0), 1);
+        due("behind hours and a question", x.lean(2, 3), 2);
+        due("the hours stay", x.count(3) * 100 + x.person(0, 2), 384);
     }
 
     private static void wakeBorne() {
@@ -525,6 +549,12 @@ public final class StandEdgeTest extends Checks {
             due("STRENGTH 0 bears 0", x.hours(1), 0);
             due("STRENGTH", x.person(0, 2), 0);
         }
+        // two columns: one gives way in the second hour, the other one in the fourth
+        WakeTower later = underLaw("fade 1", person(9, 21) + person(20, 9) + person(9, 23) + person(20, 9)
+                + "up 0 ring 0;up 1 ring 1 on a;up 2 ring 0;up 3 ring 1 on c");
+        due("in five hours", later.hours(5), 4);
+        due("the first of them", later.log(3, 1) * 10 + later.log(3, 2), 10);
+        due("the last of them", later.log(0, 1) * 10 + later.log(0, 2), 33);
     }
 
     private static void rounds() {
@@ -542,9 +572,39 @@ public final class StandEdgeTest extends Checks {
             }
             due("ON", x.person(2, 7), full == 40 ? 2 : 0);
         }
+        eightRounds();
+    }
+
+    /** 99 on seven, each of whom gives way to what the ones ahead of it leave: one each round, then who is ON them. */
+    private static void eightRounds() {
+        int[] fulls = {15, 16, 19, 24, 32, 49, 98};
+        StringBuilder lines = new StringBuilder();
+        for (int full : fulls) {
+            lines.append(person(1, full));
+        }
+        String[] texts = {lines + person(99, 9) + "up 0 ring 0;up 1 ring 0;up 2 ring 0;up 3 ring 0;up 4 ring 0",
+            "up 5 ring 0;up 6 ring 0;up 7 ring 1 on abcdefg"};
+        WakeTower x = underLaw("fade 1 if person < 1", texts);
+        due("FALLS of 0", x.falls(0), 8);
+        due("ROUNDS of it", x.rounds(0), 7);
+        due("the last one", x.fallen(0, 7), 7);
+        due("all eight", x.hours(1), 8);
+        due("nobody is UP", x.count(6), 0);
+        int[] borne = {15, 17, 20, 25, 33, 50, 99, 0};
+        for (int i = 0; i < 8; i++) {
+            due("who", x.log(7 - i, 2), i);
+            due("the round", x.log(7 - i, 3), i + 1);
+            due("BORNE", x.log(7 - i, 5), borne[i]);
+        }
     }
 
     private static void atOnce() {
+        // both below give way at once, and 2 hangs behind them
+        WakeTower two = underLaw("fade 1", person(9, 20) + person(9, 20) + person(40, 99)
+                + "up 0 ring 0;up 1 ring 0;up 2 ring 1 on ab");
+        due("all three", two.hours(1), 3);
+        due("1 in the first round", two.log(1, 2) * 10 + two.log(1, 3), 11);
+        due("2 in the second round", two.log(0, 2) * 10 + two.log(0, 3), 22);
         // 0 falls asleep: 1 and 2 hang at once; 3 GIVES WAY in the same round; 4, ON 2, hangs behind them
         WakeTower x = underLaw("drowse 100 if person < 1;fade 1 if person > 2 and person < 4", person(9, 99) + person(1, 9)
                 + person(2, 99) + person(9, 7) + person(3, 9) + person(7, 9)
@@ -610,14 +670,11 @@ public final class StandEdgeTest extends Checks {
     private static void logRoom() {
         WakeTower x = underLaw("drowse 100 if person < 1", people(8, 1, 99) + "up 0 ring 0");
         for (int hour = 0; hour < 9; hour++) {
-            for (int i = 1; i < 8; i++) {
-                x.rise(i, 1, 1);
-            }
-            due("seven fall", x.hours(1), 7);
-            x.wake(0);
+            sevenFall(x);
             due("rows", x.count(9), Math.min(60, 7 * (hour + 1)));
             due("the latest", x.log(0, 1) * 10 + x.log(0, 2), hour * 10 + 7);
             if (hour == 7) {
+                x.image();
                 due("56: the oldest is the first", x.log(55, 1) * 10 + x.log(55, 2), 1);
                 due("none ahead of it", x.log(56, 2), NONE);
             }
@@ -629,6 +686,26 @@ public final class StandEdgeTest extends Checks {
         due("rows of 0", x.led(0, false), 0);
         due("DAY of none", x.led(0, true), NONE);
         due("DAY of 1", x.led(1, true), 0);
+        // so many more that each row of then is another one
+        for (int hour = 9; hour < 17; hour++) {
+            sevenFall(x);
+        }
+        due("the latest", x.log(0, 1), 16);
+        yes("back()", x.back());
+        due("rows of the image", x.count(9), 56);
+        for (int ago = 0; ago < 56; ago++) {
+            due("who", x.log(ago, 2), 7 - ago % 7);
+            due("when", x.log(ago, 1), 7 - ago / 7);
+        }
+    }
+
+    /** 1 to 7 are ON 0, who falls asleep, so that they fall; then it is woken. */
+    private static void sevenFall(WakeTower x) {
+        for (int i = 1; i < 8; i++) {
+            x.rise(i, 1, 1);
+        }
+        due("seven fall", x.hours(1), 7);
+        x.wake(0);
     }
 
     // ---- what is undone, and the image

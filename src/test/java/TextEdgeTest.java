@@ -11,30 +11,37 @@ public final class TextEdgeTest extends Checks {
     private static final String PPP = PP + P;
 
     public static void main(String[] args) {
-        String[] names = {
-            "the tape has at most 400 bytes", "of each number the highest first", "end: n of 0 to what it has",
-            "fault: NONE without one, and ahead of any", "an empty text has no LINE", "at most 14 LINES",
-            "at most 12 texts", "PEOPLE at most 8", "WEIGHT 1 to 99", "FULL 0 to 999", "FULL at first",
-            "NEED 0 to 8", "HOUR 0 to 23", "DAY 0 to 999", "numbers of 1 to 3 digits", "H: a person by then",
-            "up: H is DOWN by then", "asleep: of one that is not", "RING 0 to 4", "on: of RING 0 none",
-            "T: none twice", "T: people by then", "T: UP in the RING below", "nobody GIVES WAY in the end",
-            "nobody HANGS in the end", "words as long as a to z", "blanks are 32", "signs", "nothing stays",
-            "what must come next",
-        };
-        Call[] tests = {
-            TextEdgeTest::tapeRoom, TextEdgeTest::highestFirst, TextEdgeTest::ends, TextEdgeTest::noFault,
-            TextEdgeTest::emptyText, TextEdgeTest::lines, TextEdgeTest::texts, TextEdgeTest::people,
-            TextEdgeTest::weights, TextEdgeTest::fulls, TextEdgeTest::atFirst, TextEdgeTest::needs, TextEdgeTest::hours,
-            TextEdgeTest::days, TextEdgeTest::digits, TextEdgeTest::byThen, TextEdgeTest::downByThen,
-            TextEdgeTest::sleepers, TextEdgeTest::rings, TextEdgeTest::onTold, TextEdgeTest::noneTwice,
-            TextEdgeTest::lettersOfPeople, TextEdgeTest::ringBelow, TextEdgeTest::givesWay, TextEdgeTest::hangs,
-            TextEdgeTest::wholeWords, TextEdgeTest::blanks, TextEdgeTest::signs, TextEdgeTest::nothingStays,
-            TextEdgeTest::mustCome,
-        };
-        for (int i = 0; i < tests.length; i++) {
-            run(names[i], tests[i]);
-        }
-        end("TextEdgeTest", tests.length);
+        run("the tape has at most 400 bytes", TextEdgeTest::tapeRoom);
+        run("of each number the highest first", TextEdgeTest::highestFirst);
+        run("end: n of 0 to what it has", TextEdgeTest::ends);
+        run("fault: NONE without one, and ahead of any", TextEdgeTest::noFault);
+        run("an empty text has no LINE", TextEdgeTest::emptyText);
+        run("at most 14 LINES", TextEdgeTest::lines);
+        run("at most 12 texts", TextEdgeTest::texts);
+        run("PEOPLE at most 8", TextEdgeTest::people);
+        run("WEIGHT 1 to 99", TextEdgeTest::weights);
+        run("FULL 0 to 999", TextEdgeTest::fulls);
+        run("FULL at first", TextEdgeTest::atFirst);
+        run("NEED 0 to 8", TextEdgeTest::needs);
+        run("HOUR 0 to 23", TextEdgeTest::hours);
+        run("DAY 0 to 999", TextEdgeTest::days);
+        run("numbers of 1 to 3 digits", TextEdgeTest::digits);
+        run("H: a person by then", TextEdgeTest::byThen);
+        run("up: H is DOWN by then", TextEdgeTest::downByThen);
+        run("asleep: of one that is not", TextEdgeTest::sleepers);
+        run("RING 0 to 4", TextEdgeTest::rings);
+        run("on: of RING 0 none", TextEdgeTest::onTold);
+        run("T: none twice", TextEdgeTest::noneTwice);
+        run("T: people by then", TextEdgeTest::lettersOfPeople);
+        run("T: UP in the RING below", TextEdgeTest::ringBelow);
+        run("nobody GIVES WAY in the end", TextEdgeTest::givesWay);
+        run("nobody HANGS in the end", TextEdgeTest::hangs);
+        run("words as long as a to z", TextEdgeTest::wholeWords);
+        run("blanks are 32", TextEdgeTest::blanks);
+        run("signs", TextEdgeTest::signs);
+        run("nothing stays", TextEdgeTest::nothingStays);
+        run("what must come next", TextEdgeTest::mustCome);
+        end("TextEdgeTest");
     }
 
     private static WakeTower right(String text) {
