@@ -467,6 +467,7 @@ public final class AskEdgeTest extends Checks {
         due("FREE: the other one below", x.free(0), 2);
         due("by 2 of nobody", x.sure(2), 0);
         due("FREE: nobody", x.free(2), 0);
+        due("by 0 behind 2, of fewer sets", x.free(0), 2);
         x.sleep(1);
         due("SURE of 1", x.sure(0), 2);
         due("FREE: nobody then", x.free(0), 0);

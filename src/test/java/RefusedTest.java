@@ -1,3 +1,6 @@
+import java.util.ArrayList;
+import java.util.List;
+
 /**
  * A call that throws changes nothing but the TAPE, where it is used up: behind it the tower answers all that its
  * twin answers, of which it was not asked. So does one that has only been asked.
@@ -10,6 +13,10 @@ public final class RefusedTest extends Checks {
 
     interface Ask {
         void of(WakeTower x);
+    }
+
+    interface Question {
+        int of(WakeTower x);
     }
 
     public static void main(String[] args) {
@@ -361,40 +368,35 @@ public final class RefusedTest extends Checks {
         }
     }
 
-    /** None of these changes a thing, with the TAPE too but for those that use it up. */
+    /** None of these changes a thing, nor the TAPE; each answers as on a tower that was asked nothing ahead. */
     private static void questions() {
-        WakeTower x = rich(1);
-        x.total();
-        x.ground();
-        x.height();
-        x.weakest();
-        x.outs();
-        x.sleeps();
-        x.key();
-        x.pillars();
-        x.left();
-        x.herald();
-        x.roster(12, 60, NONE);
-        x.roster(12, 60, 11);
-        x.pairs(50);
-        x.dearest();
-        x.alone();
-        x.tired();
-        x.twins();
-        x.ring(1);
-        x.reserves();
-        x.sleepers();
-        x.soon();
-        x.trial(60, true);
-        x.trial(60, false);
-        x.span(60, true);
-        x.span(60, false);
+        List<Question> all = new ArrayList<>(List.of(WakeTower::total, WakeTower::ground, WakeTower::height,
+                WakeTower::weakest, WakeTower::outs, WakeTower::sleeps, WakeTower::key, WakeTower::pillars, WakeTower::left,
+                WakeTower::herald, WakeTower::dearest, WakeTower::alone, WakeTower::tired, WakeTower::twins,
+                WakeTower::reserves, WakeTower::sleepers, WakeTower::soon, WakeTower::fault));
+        all.addAll(List.of(x -> x.roster(12, 60, NONE), x -> x.roster(12, 60, 11), x -> x.roster(2, 150, NONE),
+                x -> x.roster(1, 0, 0), x -> x.roster(3, 90, 1), x -> x.roster(2, 999, 1), x -> x.pairs(50)));
+        all.addAll(List.of(x -> x.trial(60, true), x -> x.trial(60, false), x -> x.span(60, true), x -> x.span(60, false),
+                x -> x.ring(1), x -> x.log(0, 2), x -> x.rests(2, 0), x -> x.both(0, 2), x -> x.both(2, 3)));
         for (int person = 0; person < 4; person++) {
-            ofOne(x, person);
+            all.addAll(ofOne(person));
         }
-        x.rests(2, 0);
-        x.both(0, 2);
-        same("questions", x, rich(1), TAPE.length());
+        WakeTower x = rich(1);
+        for (int i = 0; i < all.size(); i++) {
+            due("question " + i + " behind others", all.get(i).of(x), all.get(i).of(rich(1)));
+        }
+        for (int i = all.size() - 1; i >= 0; i--) {
+            due("question " + i + " once more", all.get(i).of(x), all.get(i).of(rich(1)));
+        }
+        WakeTower y = rich(1);
+        for (Question question : all) {
+            question.of(y);
+        }
+        same("questions", y, rich(1), TAPE.length());
+        rowsAsked();
+    }
+
+    private static void rowsAsked() {
         WakeTower y = rich(1);
         rows(y, 3, 5);
         due("guard()", y.guard(0), 0);
@@ -407,23 +409,13 @@ public final class RefusedTest extends Checks {
         same("rows", y, twin, 0);
     }
 
-    private static void ofOne(WakeTower x, int person) {
-        x.more(person);
-        x.falls(person);
-        x.rounds(person);
-        x.fallen(person, 1);
+    private static List<Question> ofOne(int person) {
+        List<Question> all = new ArrayList<>(List.of(x -> x.more(person), x -> x.falls(person), x -> x.rounds(person),
+                x -> x.fallen(person, 1), x -> x.pushes(person, 0), x -> x.tell(person), x -> x.cuts(person)));
+        all.addAll(List.of(x -> x.odds(person, 4), x -> x.ahead(person, 60), x -> x.led(person, true), x -> x.led(person, false)));
         if (person != 1) {
-            x.feels(person);
-            x.sure(person);
-            x.free(person);
-            x.ask(person);
+            all.addAll(List.of(x -> x.feels(person), x -> x.sure(person), x -> x.free(person), x -> x.ask(person)));
         }
-        x.pushes(person, 0);
-        x.tell(person);
-        x.cuts(person);
-        x.odds(person, 4);
-        x.ahead(person, 60);
-        x.led(person, true);
-        x.led(person, false);
+        return all;
     }
 }

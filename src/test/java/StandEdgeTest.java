@@ -295,6 +295,8 @@ public final class StandEdgeTest extends Checks {
         due("falls of another", x.falls(0), 1);
         due("behind hours and a question", x.lean(2, 3), 2);
         due("the hours stay", x.count(3) * 100 + x.person(0, 2), 384);
+        due("those UP stay", x.count(6), 15);
+        due("ON", x.person(2, 7), 3);
     }
 
     private static void wakeBorne() {

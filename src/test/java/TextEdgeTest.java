@@ -142,6 +142,45 @@ public final class TextEdgeTest extends Checks {
         due("NEED of the first six bytes", x.count(5), 3);
         yes("end(0) of a tape that is used up", x.end(0));
         no("end(1) of it", x.end(1));
+        bytesLeftAway();
+    }
+
+    /** What stood behind the first n bytes is not read, were it blanks, digits, letters or signs. */
+    private static void bytesLeftAway() {
+        String[] tapes = {"need      ", "need 3    ", "need 33333", "needneedne", "day 1;day 2", "need 3;;;;"};
+        int[] lengths = {4, 6, 6, 4, 6, 6};
+        int[] faults = {4, NONE, NONE, 4, 6, NONE};
+        for (int i = 0; i < tapes.length; i++) {
+            WakeTower x = new WakeTower();
+            feed(x, tapes[i]);
+            yes("end(" + lengths[i] + ")", x.end(lengths[i]));
+            if (faults[i] == NONE) {
+                due("tower() of the first bytes of " + tapes[i], x.tower(), 1);
+                due("NEED", x.count(5), 3);
+            } else {
+                fails("tower() of the first bytes of " + tapes[i], ARGUMENT, x::tower);
+            }
+            due("fault()", x.fault(), faults[i]);
+        }
+        // a whole tape of blanks, cut: the text is wrong at its own length
+        WakeTower x = new WakeTower();
+        feed(x, "need" + " ".repeat(396));
+        x.end(9);
+        fails("tower()", ARGUMENT, x::tower);
+        due("fault()", x.fault(), 9);
+        WakeTower y = new WakeTower();
+        feed(y, "fade 3 if top" + " ".repeat(300));
+        y.end(9);
+        fails("law()", ARGUMENT, y::law);
+        due("fault()", y.fault(), 9);
+        // a text used up leaves nothing behind for a shorter one
+        feed(y, "fade 3;fade 4");
+        due("law()", y.law(), 2);
+        feed(y, "fade 3");
+        due("law()", y.law(), 1);
+        rows(y, 1, 2, 3);
+        fails("solo()", ARGUMENT, y::solo);
+        due("no rows are left", y.solo(), 0);
     }
 
     private static void noFault() {
